@@ -149,7 +149,10 @@ public final class ModelTest {
         switch (upTo(5)) {
             case 0: return same("most " + k, x.most(k), m.most(k));
             case 1: return same("best " + part, x.best(part), m.best(part));
-            case 2: return same("reach " + a, x.reach(a), m.reach(a));
+            case 2: {
+                for (int t = -1; t < 7; t++) if (!same("reach " + t, x.reach(t), m.reach(t))) return false;
+                return true;
+            }
             case 3: return same("can " + a + " " + part, x.can(a, part), m.can(a, part));
             default: return upTo(2) == 0 || same("marked " + a + " " + part, x.marked(a, part), m.marked(a, part));
         }

@@ -140,7 +140,20 @@ public final class PromiseTest {
         kind("TOLD by its row", 6, 0, 7, 2, 1);
         kind("TOLD by its row, later", 6, 0, 7, 6, 1);
         kind("TOLD not by its row", 6, 0, 7, 3, 0);
+        kind("BAIT alike, not as many", 4, 5, 3, 0, 0);
+        kind("BAIT as many, unlike", 4, 5, 56, 0, 0);
+        kind("BAIT alike, v less than had", 4, 0, 3, 0, 1);
+        kind("TICKET day 3", 5, 0, 1, 3, 1);
+        kind("TICKET day 2", 5, 0, 1, 2, 0);
+        kind("TICKET day 4", 5, 0, 1, 4, 0);
+        kind("TOLD unlike, as many", 6, 0, 112, 0, 0);
+        kind("TOLD alike, more", 6, 0, 31, 0, 0);
         PickedMatch x = things(7, 9);
+        x.thing(5, 0, 6);
+        x.take(0);
+        x.take(1);
+        due("TICKET even day: alike to an older one", x.of(2, 6), 1);
+        x = things(7, 9);
         x.thing(2, 0, 6);
         x.take(0);
         x.take(1);
@@ -348,6 +361,7 @@ public final class PromiseTest {
         due("hold", x.told(2), 6);
         due("had", x.told(3), 3);
         due("go", x.told(4), 4);
+        due("all go", things(1, 2, 3).told(4), 7);
         due("all marks", x.told(5), 3);
         due("twins", x.told(6), 1);
         due("cover", x.told(7), 10);
@@ -514,6 +528,7 @@ public final class PromiseTest {
         x.take(0);
         due("none goes", x.best(0), -5);
         due("back", x.best(1), 0);
+        due("a row of one", things(8).best(0), 0);
         x = new PickedMatch();
         due("no things", x.best(0), -5);
         // each of both, put back, lets the KEY be had as the last: the first by its number
@@ -555,6 +570,18 @@ public final class PromiseTest {
         x.take(0);
         int[] reach = {-5, 0, 1, 2, 3, 4};
         for (int t = 0; t < 6; t++) due("reach", x.reach(t), reach[t]);
+        x = things(1, 1, 1, 2, 2, 64);
+        x.take(0);
+        x.mark(2, 3);
+        due("by a later one alone", x.reach(3), 1);
+        due("by a later one alone", x.reach(4), 1);
+        x.mark(4, 64);
+        due("by none", x.reach(5), -5);
+        x.mark(4, 66);
+        due("by two", x.reach(5), 2);
+        x = things(3, 2, 1);
+        x.take(2);
+        due("by an earlier one", x.reach(1), 1);
         x = things(1, 1, 1, 1, 1, 1);
         street(x, "mind 50 t=5&w>0&w<5;need 1");
         due("none had", x.reach(5), 0);

@@ -32,7 +32,6 @@ public final class PickedMatch {
     private final Notes keptNotes = new Notes();
     private boolean isKept;
     private final StreetReader reader = new StreetReader();
-    private final Street[] streets = new Street[STREETS_LIMIT];
     private int streetCount;
     private final Search search = new Search();
     private final Acts acts = new Acts();
@@ -146,9 +145,8 @@ public final class PickedMatch {
         if (!isRead) {
             return FAULT_BASE - reader.place;
         }
-        Street newest = new Street(reader.code, reader.size, reader.need, reader.hold);
-        streets[streetCount] = newest;
-        scene.held = newest;
+        // an older STREET can hold again by undo() alone, and the kept scene has that one
+        scene.held = new Street(reader.code, reader.size, reader.need, reader.hold);
         streetCount++;
         return streetCount - 1;
     }
@@ -650,6 +648,7 @@ public final class PickedMatch {
         private final int[] kinds = new int[THINGS_LIMIT];
         private final int[] numbers = new int[THINGS_LIMIT];
         private final int[] marks = new int[THINGS_LIMIT];
+        /** Of THINGS that are not there it is 0 throughout: an undo() brings all of it back. */
         private final int[] rows = new int[THINGS_LIMIT * ROW_PARTS];
         private final int[] had = new int[THINGS_LIMIT];
         private int hadCount;
@@ -684,10 +683,6 @@ public final class PickedMatch {
             kinds[t] = kind;
             numbers[t] = number;
             marks[t] = itsMarks;
-            // undo() may have left a ROW of a THING that is no more
-            for (int part = 0; part < ROW_PARTS; part++) {
-                rows[t * ROW_PARTS + part] = 0;
-            }
             things = t + 1;
             return t;
         }
