@@ -194,6 +194,15 @@ final class AskedBoundaries extends Boundary {
         street(x, "need 1");
         x.pass(1);
         due("on DAY 1", x.reach(2), 0);
+        x = things(3, 1, 2);
+        x.take(1);
+        due("by THING 0", x.reach(2), 1);
+        // a KEY that THING 1 keeps away, and that goes behind two alone: what was tried in vain is not HAD any more
+        x = things(1, 2, 4);
+        x.take(0);
+        x.thing(2, 0, 3);
+        street(x, "need 0;mind 9 t=3&w>2");
+        due("by THING 2, not by THING 1", x.reach(3), 1);
         x = new PickedMatch();
         due("no such THING", x.reach(0), -1);
     }
@@ -232,6 +241,21 @@ final class AskedBoundaries extends Boundary {
         x.take(0);
         street(x, "need 5;like 5 t=2&w=1;like 5 t<2&w=2");
         due("of several the first by its number", x.best(1), 0);
+        // what is put back is not HAD any more: it may go again, behind a KEY that it kept away
+        x = things(1);
+        x.take(0);
+        x.thing(2, 0, 3);
+        due("it goes again", x.best(1), 0);
+        // and its MARKS are no longer alike: no KEY goes without it
+        x = had(1, 6);
+        x.thing(2, 0, 2);
+        x.thing(2, 0, 4);
+        street(x, "need 1");
+        due("its MARKS are gone, too", x.best(1), -5);
+        // the others stay: none of them goes twice
+        x = had(1, 1, 1);
+        street(x, "need 1");
+        due("the others stay", x.best(1), -5);
     }
 
     private static PickedMatch inOrder(int... order) {

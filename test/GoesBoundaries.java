@@ -114,6 +114,15 @@ final class GoesBoundaries extends Boundary {
         goes("NEED 0, none as HAD", need(0, 7, 0), 1, 0, 0, 1);
         goes("NEED 8, all", need(8, 255, 0), 1, 0, 255, 1);
         goes("NEED 9, all", need(9, 255, 0), 1, 0, 255, 0);
+        // what is not HAD does not count: THING 0, or one that was put back
+        PickedMatch x = things(7, 1, 11);
+        street(x, "need 0");
+        x.take(1);
+        goes("as many as one that never was HAD", x, 1, 0, 224, 0);
+        x.take(2);
+        goes("as many as one that is HAD", x, 1, 0, 224, 1);
+        x.put();
+        due("as many as one that was HAD", x.of(4, 6), 0);
     }
 
     @Sentence("KEY: as THING, and none of its MARKS is one of THE NEWEST's.")

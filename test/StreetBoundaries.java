@@ -304,8 +304,9 @@ final class StreetBoundaries extends Boundary {
         }
         PickedMatch x = new PickedMatch();
         x.thing(0, 9, 0);
-        String[] so = {"v<10", "v<99", "v=9", "v=09", "v>8", "v>08", "v>0", "v>00"};
-        String[] notSo = {"v<9", "v<09", "v<0", "v=8", "v=10", "v=90", "v=99", "v>9", "v>09", "v>10", "v>99"};
+        String[] so = {"v<10", "v<99", "v=9", "v=09", "v>8", "v>08", "v>0", "v>00", "v=9|t<0", "v=9&!t<0", "v=9&d<99"};
+        String[] notSo = {"v<9", "v<09", "v<0", "v=8", "v=10", "v=90", "v=99", "v>9", "v>09", "v>10", "v>99", "t<0",
+            "v=9&t<0", "v=9&d>99"};
         for (String test : so) due(test, taste(test), 1);
         for (String test : notSo) due(test, taste(test), 0);
     }

@@ -311,6 +311,24 @@ final class ThingPromises extends Boundary {
             due("it holds", x.told(1), 10 + n);
             due("how many", x.count(1), n + 1);
         }
+        // what stood behind in a longer one is no part of a shorter one
+        x = things(0);
+        street(x, "like 1 t=0|t=1;need 55");
+        due("up to a |", street(x, "like 2 t=0"), 1);
+        due("TASTE", x.of(0, 4), 2);
+        street(x, "like 1 t=0&t=1;need 55");
+        due("up to a &", street(x, "like 3 t=0"), 3);
+        due("TASTE", x.of(0, 4), 3);
+        due("up to a digit", street(x, "need "), -15);
+        street(x, "need 77");
+        due("up to the second digit", street(x, "need 7"), 5);
+        due("NEED", x.told(1), 7);
+        x = things(0);
+        street(x, "like 1 (t=0)");
+        due("up to a )", street(x, "like 1 (t=0"), -21);
+        street(x, "need 1;need 2");
+        due("up to a ;", street(x, "need 1"), 2);
+        due("NEED", x.told(1), 1);
     }
 
     @Sentence(promise = 9, value = "FULL: there are 6 (THE TEXT stays);")

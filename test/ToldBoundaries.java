@@ -445,5 +445,32 @@ final class ToldBoundaries extends Boundary {
         due("TASTE by the STREET", x.of(0, 4), 5);
         due("the ROW", x.row(2, 3, 0), 9);
         due("how many STREETS came", x.count(1), 2);
+        rowsOfTheImage();
+    }
+
+    /** As many rows of each come instead of THE IMAGE's, unlike in one column each time. */
+    private static void rowsOfTheImage() {
+        for (int column = 0; column < 3; column++) {
+            PickedMatch x = things(1, 1, 2);
+            x.take(0);
+            x.see(1, true, 2);
+            x.week(2, 1);
+            x.book(2, 2);
+            x.image();
+            x.see(-1, true, 0);
+            x.week(-1, 0);
+            x.book(-1, 0);
+            x.see(column == 0 ? 2 : 1, column != 1, column == 2 ? 1 : 2);
+            x.week(column == 0 ? 1 : 2, column == 1 ? 2 : 1);
+            x.book(column == 0 ? 1 : 2, column == 1 ? 1 : 2);
+            String changed = "column " + column;
+            due(changed + ": SEEN is not so", x.can(2, 0), 0);
+            due(changed + ": the WEEK goes", x.ends(0), column == 0 ? 0 : column == 1 ? 1 : 3);
+            due(changed + ": the BOOK", x.looked(), column == 2 ? -5 : 0);
+            x.undo();
+            due(changed + ": SEEN is so again", x.can(2, 0), 10);
+            due(changed + ": the WEEK goes again", x.ends(0), 3);
+            due(changed + ": the BOOK is so again", x.looked(), -5);
+        }
     }
 }
