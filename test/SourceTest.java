@@ -10,7 +10,8 @@ public final class SourceTest {
         {"1", "\\bpackage\\b"},
         {"2", "->|::|\\bnew\\s+\\w+\\s*\\([^()]*\\)\\s*\\{"},
         {"3", "\\bdouble\\b|\\bfloat\\b|\\bObject\\b|\\bLong\\s+\\w+\\s*[=;]"},
-        {"4", "\\bimport\\b|Exact\\b|\\.format\\b|\\.valueOf\\b|\\.split\\b|\\bSystem\\.(?!arraycopy\\b)|\\bThread\\b"},
+        {"4", "\\bimport\\b|Exact\\b|\\.format\\b|\\.valueOf\\b|\\.split\\b|\\bSystem\\.(?!arraycopy\\b)|\\bThread\\b"
+            + "|\\b(Integer|Math)\\.[A-Z]"},
         {"5", "\\bstatic\\s*\\{"},
         {"6", "\\b(throw|throws|try|catch|finally|synchronized|assert|hashCode|toString)\\b"},
         {"10", "\"\\s*\\+|\\+\\s*\""},

@@ -589,7 +589,8 @@ public final class PickedMatch {
 
     private int twinsNow() {
         int twins = ABSENT;
-        int fewest = Integer.MAX_VALUE;
+        // more than any two can be unlike
+        int fewest = MARKS_LIMIT;
         for (int a = 0; a < scene.things; a++) {
             for (int b = a + 1; b < scene.things; b++) {
                 int unlike = Integer.bitCount(scene.marks[a] ^ scene.marks[b]);
