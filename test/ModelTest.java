@@ -3,7 +3,9 @@ import java.util.List;
 
 /** Runs of calls, made by a rule from their number, on the program and on the Model: every answer is the same. */
 public final class ModelTest {
-    private static final int RUNS = 400;
+    private static final int RUNS = 1000;
+    private static final int STEPS = 300;
+    /** No step begins behind so many: behind its 512th call an object may answer anything. */
     private static final int CALLS = 300;
     private static final int[] ODD = {-1, -2, -3, -5, 6, 7, 8, 10, 61, 100, 255, 256, 1000,
         Integer.MAX_VALUE, Integer.MIN_VALUE, Integer.MAX_VALUE - 1};
@@ -220,7 +222,7 @@ public final class ModelTest {
             }
         }
         if (upTo(2) == 0 && (!feedText(x, m, text()) || !same("street", x.street(), m.street()))) return false;
-        for (int i = 0; i < CALLS; i++) {
+        for (int i = 0; i < STEPS && calls.size() < CALLS; i++) {
             int form = upTo(8);
             boolean goesOn = form < 3 ? tell(x, m) : form < 7 ? ask(x, m) : tapes(x, m);
             if (!goesOn || i % 60 == 59 && !askAll(x, m)) return false;
